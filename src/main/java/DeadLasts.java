@@ -1,8 +1,8 @@
 /**
  * Lasts kept for the dead: who walks where in whose lasts, through a town, in the rain.
  *
- * <p>The words in the comments (STEP, LAST, WEIGHT, ..) are those of the document. No call throws;
- * a refusal is an answer below 0. All rows are made in the constructor and used again, so that no
+ * <p>The words in capitals in the comments (STEP, WEIGHT, WAY, ..) are those of the document. No call
+ * throws; a refusal is an answer. All rows are made in the constructor and used again, so that no
  * later call makes an object.
  */
 public final class DeadLasts {
@@ -56,13 +56,19 @@ public final class DeadLasts {
     private final Walker walker;
     private final Storm tempest;
     private final Matching matching;
-    /** What a search has found: the lasts and the STEP of PAIR, the rains of DRY. */
-    private final int[] found;
+    /** PAIR as it was found last: LEFT, RIGHT, STEP. */
+    private final int[] pairRow;
+    /** DRY as it was found last. */
+    private final int[] dryRow;
     /** The CELLS of one PERSON by each of the eight RIGHT lasts, STEP by STEP. */
     private final int[] tracks;
     private int finding;
     /** Whether texts or rain have changed since the traces were made. */
     private boolean stale;
+    /** Whose PAIR is found; NONE: nobody's, as things are now. */
+    private int pairPerson;
+    /** How many RAINS are in dryRow, NONE if no row does; BAD: not found, as things are now. */
+    private int dryNeeded;
 
     public DeadLasts() {
         texts = new Text[] {new Text(41), new Text(47), new Text(LONGEST_TEXT)};
@@ -84,10 +90,13 @@ public final class DeadLasts {
         walker = new Walker(town, lasts);
         tempest = new Storm(town, lasts);
         matching = new Matching();
-        found = new int[3];
+        pairRow = new int[] {NONE, NONE, NONE};
+        dryRow = new int[] {NONE, NONE};
         tracks = new int[MOST * STEPS];
         finding = 0;
         stale = true;
+        pairPerson = NONE;
+        dryNeeded = BAD;
     }
 
     // ---- the town, lasts, people, rain
@@ -154,7 +163,7 @@ public final class DeadLasts {
         if (!rains.add(step)) {
             return FULL;
         }
-        stale = true;
+        outdate();
         return rains.size;
     }
 
@@ -163,7 +172,7 @@ public final class DeadLasts {
             return NOT;
         }
         rains.size--;
-        stale = true;
+        outdate();
         return rains.size;
     }
 
@@ -176,7 +185,7 @@ public final class DeadLasts {
             return refusal(NULL);
         }
         rains.size = 0;
-        stale = true;
+        outdate();
         for (int i = 0; i < sheet.size; i++) {
             int step = sheet.items[i];
             if (!isWithin(step, STEPS) || !rains.add(step)) {
@@ -266,8 +275,11 @@ public final class DeadLasts {
         if (!isWithin(person, people.size) || !isWithin(what, 3)) {
             return BAD;
         }
-        findPair(person);
-        return found[what];
+        if (pairPerson != person) {
+            findPair(person);
+            pairPerson = person;
+        }
+        return pairRow[what];
     }
 
     public int soles(int person) {
@@ -307,11 +319,13 @@ public final class DeadLasts {
         if (i != NONE && !isWithin(i, 2)) {
             return BAD;
         }
-        int needed = findDry();
-        if (i == NONE) {
-            return needed;
+        if (dryNeeded == BAD) {
+            dryNeeded = findDry();
         }
-        return i < needed ? found[i] : NONE;
+        if (i == NONE) {
+            return dryNeeded;
+        }
+        return i < dryNeeded ? dryRow[i] : NONE;
     }
 
     // ---- seen, storms, shelves
@@ -544,6 +558,10 @@ public final class DeadLasts {
         return number >= 0 && number < end;
     }
 
+    private static boolean isBitOf(int bits, int bit) {
+        return (bits >> bit & 1) != 0;
+    }
+
     /** Keeps the number of a FINDING and answers what the call answers by it. */
     private int refusal(int number) {
         finding = number;
@@ -567,7 +585,15 @@ public final class DeadLasts {
         } else {
             faults[2] = people.load(texts[2]);
         }
+        outdate();
+    }
+
+    /** What was found and kept no longer holds. */
+    private void outdate() {
         stale = true;
+        pairPerson = NONE;
+        dryNeeded = BAD;
+        tempest.person = NONE;
     }
 
     private void retrace() {
@@ -599,9 +625,9 @@ public final class DeadLasts {
 
     private void findPair(int person) {
         int wet = rains.wetSteps(NONE, NONE);
-        found[0] = NONE;
-        found[1] = NONE;
-        found[2] = NONE;
+        pairRow[0] = NONE;
+        pairRow[1] = NONE;
+        pairRow[2] = NONE;
         int soonest = STEPS;
         for (int left = 0; left < lasts.size; left++) {
             for (int right = 0; right < lasts.size; right++) {
@@ -612,30 +638,30 @@ public final class DeadLasts {
                 int step = walker.walk(wet, soonest);
                 if (walker.state == COME && step < soonest) {
                     soonest = step;
-                    found[0] = left;
-                    found[1] = right;
-                    found[2] = step;
+                    pairRow[0] = left;
+                    pairRow[1] = right;
+                    pairRow[2] = step;
                 }
             }
         }
     }
 
-    /** How many RAINS are left out for DRY, and in found[] which; NONE. */
+    /** How many RAINS are left out for DRY, and in dryRow which; NONE. */
     private int findDry() {
         if (nobodyDrownsWithout(NONE, NONE)) {
             return 0;
         }
         for (int i = 0; i < rains.size; i++) {
             if (nobodyDrownsWithout(i, NONE)) {
-                found[0] = i;
+                dryRow[0] = i;
                 return 1;
             }
         }
         for (int i = 0; i < rains.size; i++) {
             for (int j = i + 1; j < rains.size; j++) {
                 if (nobodyDrownsWithout(i, j)) {
-                    found[0] = i;
-                    found[1] = j;
+                    dryRow[0] = i;
+                    dryRow[1] = j;
                     return 2;
                 }
             }
@@ -708,10 +734,11 @@ public final class DeadLasts {
     private int greatestCrowd(int step, int bits) {
         int greatest = 0;
         for (int last = 0; last < MOST; last++) {
+            int cell = tracks[last * STEPS + step];
             int crowd = 0;
-            for (int other = 0; other < MOST; other++) {
-                if ((bits >> last & 1) != 0 && (bits >> other & 1) != 0
-                        && tracks[last * STEPS + step] == tracks[other * STEPS + step]) {
+            // those ahead of it on the same CELL have been counted with the first of them
+            for (int other = last; other < MOST; other++) {
+                if (isBitOf(bits, other) && tracks[other * STEPS + step] == cell) {
                     crowd++;
                 }
             }
@@ -1115,7 +1142,7 @@ public final class DeadLasts {
             begin();
             int step = 0;
             while (step < end && state == WALKS) {
-                go(step, (wet >> step & 1) != 0);
+                go(step, isBitOf(wet, step));
                 step++;
             }
             return step - 1;
@@ -1135,7 +1162,7 @@ public final class DeadLasts {
             endStep = NONE;
             for (int step = 0; step < STEPS; step++) {
                 boolean walked = walker.state == WALKS;
-                walker.go(step, (wet >> step & 1) != 0);
+                walker.go(step, isBitOf(wet, step));
                 if (walked && walker.state != WALKS) {
                     endStep = step;
                 }
@@ -1206,6 +1233,9 @@ public final class DeadLasts {
         private final Walker[] stands = new Walker[LAST_STORM_STEP + 2];
         private int wetParts;
         private int steps;
+        /** Whose chance is kept, of the parts and steps above; NONE: nobody's. */
+        private int person = NONE;
+        private long chance;
 
         Storm(Town town, Lasts lasts) {
             for (int i = 0; i < stands.length; i++) {
@@ -1214,12 +1244,17 @@ public final class DeadLasts {
         }
 
         /** The chance to have COME, in parts of which there are 16 to the power of the steps. */
-        long chanceToCome(People people, int person, int sixteenths, int last) {
-            wetParts = sixteenths;
-            steps = Math.min(last, LAST_STORM_STEP) + 1;
-            stands[0].wear(people, person);
-            stands[0].begin();
-            return comingFrom(0, 1);
+        long chanceToCome(People people, int asked, int sixteenths, int last) {
+            int many = Math.min(last, LAST_STORM_STEP) + 1;
+            if (person != asked || wetParts != sixteenths || steps != many) {
+                person = asked;
+                wetParts = sixteenths;
+                steps = many;
+                stands[0].wear(people, person);
+                stands[0].begin();
+                chance = comingFrom(0, 1);
+            }
+            return chance;
         }
 
         /** Of so many parts ahead of a STEP: those that come, each worth 16 for each STEP left. */
@@ -1232,7 +1267,7 @@ public final class DeadLasts {
                 return stand.state == COME ? parts << 4 * (steps - step) : 0;
             }
             if (step >= steps) {
-                for (int s = step; s < STEPS; s++) {
+                for (int s = step; s < STEPS && stand.state == WALKS; s++) {
                     stand.go(s, false);
                 }
                 return stand.state == COME ? parts : 0;
@@ -1282,7 +1317,7 @@ public final class DeadLasts {
                 return false;
             }
             for (int last = 0; last < MOST; last++) {
-                if ((allowed[person] >> last & 1) == 0 || (tried >> last & 1) != 0) {
+                if (!isBitOf(allowed[person], last) || isBitOf(tried, last)) {
                     continue;
                 }
                 tried |= 1 << last;
