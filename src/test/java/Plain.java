@@ -9,7 +9,7 @@ import java.util.regex.Pattern;
 
 /**
  * The document told over again in another manner, with lists, maps and patterns and no thought of
- * speed: nothing is kept between two calls but what was typed, rained, seen and laid.
+ * speed: nothing is kept between two calls but what was typed and read, rained, seen and laid.
  */
 final class Plain {
     private static final int NONE = -1, BAD = -2, NOT = -3, FULL = -4;
@@ -33,6 +33,10 @@ final class Plain {
     private record Sight(int step, int person, int cell) { }
 
     private final StringBuilder[] texts = {new StringBuilder(), new StringBuilder(), new StringBuilder()};
+    private final String[][] parts = {{}, {}, {}};
+    private String cells = "";
+    private List<Last> lasts = new ArrayList<>();
+    private List<Person> people = new ArrayList<>();
     private final List<Integer> rains = new ArrayList<>();
     private final List<Sight> sights = new ArrayList<>();
     private final Object[] sheets = new Object[4];
@@ -47,7 +51,9 @@ final class Plain {
         if (texts[text].length() == MOST[text]) {
             return FULL;
         }
-        return texts[text].append((char) b).length();
+        texts[text].append((char) b);
+        reread(text);
+        return texts[text].length();
     }
 
     int wipe(int text) {
@@ -56,6 +62,7 @@ final class Plain {
         }
         int had = texts[text].length();
         texts[text].setLength(0);
+        reread(text);
         return had;
     }
 
@@ -67,6 +74,7 @@ final class Plain {
             return NOT;
         }
         texts[text].setLength(texts[text].length() - 1);
+        reread(text);
         return texts[text].length();
     }
 
@@ -112,43 +120,33 @@ final class Plain {
         return rows;
     }
 
-    private String[] parts(int text) {
-        return fault(text) != NONE || texts[text].isEmpty() ? new String[0] : texts[text].toString().split(";");
-    }
-
-    private String cells() {
-        return String.join("", parts(0));
-    }
-
-    private List<Last> lasts() {
-        List<Last> all = new ArrayList<>();
-        for (String part : parts(1)) {
-            all.add(new Last(part.charAt(0), part.substring(1)));
+    private void reread(int text) {
+        String signs = fault(text) == NONE ? texts[text].toString() : "";
+        parts[text] = signs.isEmpty() ? new String[0] : signs.split(";");
+        cells = String.join("", parts[0]);
+        lasts = new ArrayList<>();
+        for (String part : parts[1]) {
+            lasts.add(new Last(part.charAt(0), part.substring(1)));
         }
-        return all;
-    }
-
-    private List<Person> people() {
-        List<Person> all = new ArrayList<>();
-        for (String part : parts(2)) {
-            all.add(new Person(Integer.parseInt(part.substring(0, 2)), part.charAt(2) - '0',
+        people = new ArrayList<>();
+        for (String part : parts[2]) {
+            people.add(new Person(Integer.parseInt(part.substring(0, 2)), part.charAt(2) - '0',
                     part.charAt(3) - '0', part.charAt(4) - '0', part.charAt(5)));
         }
-        return all;
     }
 
     int cell(int cell) {
         if (cell < 0 || cell > 35) {
             return BAD;
         }
-        return cell < cells().length() ? ".#cr".indexOf(cells().charAt(cell)) : NONE;
+        return cell < cells.length() ? ".#cr".indexOf(cells.charAt(cell)) : NONE;
     }
 
     int last(int last, int what) {
-        if (last < 0 || last >= lasts().size() || what < 0 || what > 5) {
+        if (last < 0 || last >= lasts.size() || what < 0 || what > 5) {
             return BAD;
         }
-        Last it = lasts().get(last);
+        Last it = lasts.get(last);
         if (what == 0) {
             return "pdt".indexOf(it.kind);
         }
@@ -159,10 +157,10 @@ final class Plain {
     }
 
     int person(int person, int what) {
-        if (person < 0 || person >= people().size() || what < 0 || what > 4) {
+        if (person < 0 || person >= people.size() || what < 0 || what > 4) {
             return BAD;
         }
-        Person it = people().get(person);
+        Person it = people.get(person);
         return new int[] {it.cell, it.left, it.right, it.soled, "nesw".indexOf(it.own)}[what];
     }
 
@@ -213,7 +211,7 @@ final class Plain {
     /** How one stands ahead of STEP 0, then behind each STEP. */
     private List<Stand> walk(Person it, List<Integer> wet) {
         List<Stand> stands = new ArrayList<>();
-        boolean lost = it.cell >= cells().length() || cell(it.cell) == 1;
+        boolean lost = it.cell >= cells.length() || cell(it.cell) == 1;
         stands.add(lost ? new Stand(NONE, 3, 0, NONE) : standing(it.cell, 0, NONE));
         Map<String, Integer> times = new HashMap<>();
         for (int step = 0; step < 30; step++) {
@@ -230,11 +228,11 @@ final class Plain {
             if (heavy) {
                 weight -= needed;
             }
-            if (!heavy || last >= lasts().size()) {
+            if (!heavy || last >= lasts.size()) {
                 last = NONE;
             } else {
                 int time = times.merge(step % 2 == 0 ? "left" : "right", 1, Integer::sum);
-                way = wayOf(lasts().get(last), time);
+                way = wayOf(lasts.get(last), time);
             }
             stands.add(standing(moved(was.cell, way), weight, last));
         }
@@ -259,7 +257,7 @@ final class Plain {
     }
 
     private int moved(int cell, char way) {
-        String[] rows = parts(0);
+        String[] rows = parts[0];
         int width = rows[0].length();
         int row = cell / width + (way == 's' ? 1 : way == 'n' ? -1 : 0);
         int column = cell % width + (way == 'e' ? 1 : way == 'w' ? -1 : 0);
@@ -270,7 +268,7 @@ final class Plain {
     }
 
     private Stand behind(int step, int person) {
-        return walk(people().get(person), rains).get(step + 1);
+        return walk(people.get(person), rains).get(step + 1);
     }
 
     private int endOf(Person it, List<Integer> wet) {
@@ -289,7 +287,7 @@ final class Plain {
     }
 
     int at(int step, int person, int what) {
-        if (step < 0 || step > 29 || person < 0 || person >= people().size() || what < 0 || what > 3) {
+        if (step < 0 || step > 29 || person < 0 || person >= people.size() || what < 0 || what > 3) {
             return BAD;
         }
         Stand stand = behind(step, person);
@@ -297,10 +295,10 @@ final class Plain {
     }
 
     int ends(int person, int what) {
-        if (person < 0 || person >= people().size() || what < 0 || what > 1) {
+        if (person < 0 || person >= people.size() || what < 0 || what > 1) {
             return BAD;
         }
-        int step = stepInto(people().get(person), what + 1);
+        int step = stepInto(people.get(person), what + 1);
         return step == 30 ? NONE : step;
     }
 
@@ -309,7 +307,7 @@ final class Plain {
             return BAD;
         }
         int bits = 0;
-        for (int p = 0; p < people().size(); p++) {
+        for (int p = 0; p < people.size(); p++) {
             bits += behind(29, p).state == what + 1 ? 1 << p : 0;
         }
         return bits;
@@ -320,7 +318,7 @@ final class Plain {
             return BAD;
         }
         List<List<Stand>> all = new ArrayList<>();
-        for (Person it : people()) {
+        for (Person it : people) {
             all.add(walk(it, rains));
         }
         for (int step = 0; step < 30; step++) {
@@ -338,11 +336,11 @@ final class Plain {
     }
 
     int worn(int last) {
-        if (last < 0 || last >= lasts().size()) {
+        if (last < 0 || last >= lasts.size()) {
             return BAD;
         }
         int times = 0;
-        for (Person it : people()) {
+        for (Person it : people) {
             for (Stand stand : walk(it, rains)) {
                 times += stand.last == last ? 1 : 0;
             }
@@ -352,7 +350,7 @@ final class Plain {
 
     int rifest() {
         int best = NONE;
-        for (int last = lasts().size() - 1; last >= 0; last--) {
+        for (int last = lasts.size() - 1; last >= 0; last--) {
             if (best == NONE || worn(last) >= worn(best)) {
                 best = last;
             }
@@ -363,13 +361,13 @@ final class Plain {
     // ---- plans
 
     int pair(int person, int what) {
-        if (person < 0 || person >= people().size() || what < 0 || what > 2) {
+        if (person < 0 || person >= people.size() || what < 0 || what > 2) {
             return BAD;
         }
         int[] best = {NONE, NONE, 30};
-        for (int left = lasts().size() - 1; left >= 0; left--) {
-            for (int right = lasts().size() - 1; right >= 0; right--) {
-                int step = stepInto(people().get(person).in(left, right), 1);
+        for (int left = lasts.size() - 1; left >= 0; left--) {
+            for (int right = lasts.size() - 1; right >= 0; right--) {
+                int step = stepInto(people.get(person).in(left, right), 1);
                 if (step < 30 && step <= best[2]) {
                     best = new int[] {left, right, step};
                 }
@@ -379,11 +377,11 @@ final class Plain {
     }
 
     int soles(int person) {
-        if (person < 0 || person >= people().size()) {
+        if (person < 0 || person >= people.size()) {
             return BAD;
         }
         for (int times = 0; times <= 5; times++) {
-            if (endOf(people().get(person).soledBy(times), rains) != 2) {
+            if (endOf(people.get(person).soledBy(times), rains) != 2) {
                 return times;
             }
         }
@@ -391,10 +389,10 @@ final class Plain {
     }
 
     int match() {
-        boolean[][] may = new boolean[people().size()][lasts().size()];
+        boolean[][] may = new boolean[people.size()][lasts.size()];
         for (int p = 0; p < may.length; p++) {
             for (int last = 0; last < may[p].length; last++) {
-                may[p][last] = endOf(people().get(p).in(last, last), rains) == 1;
+                may[p][last] = endOf(people.get(p).in(last, last), rains) == 1;
             }
         }
         return most(may, 0, 0);
@@ -439,7 +437,7 @@ final class Plain {
         }
         for (List<Integer> row : rows) {
             List<Integer> wet = rainsBut(row);
-            if (people().stream().noneMatch(it -> endOf(it, wet) == 2)) {
+            if (people.stream().noneMatch(it -> endOf(it, wet) == 2)) {
                 return i == -1 ? row.size() : i < row.size() ? row.get(i) : NONE;
             }
         }
@@ -477,18 +475,18 @@ final class Plain {
     int never() {
         int bits = 0;
         for (int i = 0; i < rains.size(); i++) {
-            bits += comesOutSo(people(), rainsBut(List.of(i))) ? 1 << i : 0;
+            bits += comesOutSo(people, rainsBut(List.of(i))) ? 1 << i : 0;
         }
         return bits;
     }
 
     int wore(int person, int what) {
-        if (person < 0 || person >= people().size() || what < 0 || what > 1) {
+        if (person < 0 || person >= people.size() || what < 0 || what > 1) {
             return BAD;
         }
         int bits = 0;
         for (int last = 0; last < 8; last++) {
-            List<Person> all = people();
+            List<Person> all = new ArrayList<>(people);
             Person it = all.get(person);
             all.set(person, what == 0 ? it.in(last, it.right) : it.in(it.left, last));
             bits += comesOutSo(all, rains) ? 1 << last : 0;
@@ -497,10 +495,10 @@ final class Plain {
     }
 
     int ask(int person) {
-        if (person < 0 || person >= people().size()) {
+        if (person < 0 || person >= people.size()) {
             return BAD;
         }
-        Person it = people().get(person);
+        Person it = people.get(person);
         int bits = wore(person, 1);
         int best = 29;
         long least = 9;
@@ -521,7 +519,7 @@ final class Plain {
     }
 
     long storm(int c, int last, int person, int what) {
-        if (c < 0 || c > 16 || last < 0 || last > 9 || person < 0 || person >= people().size()
+        if (c < 0 || c > 16 || last < 0 || last > 9 || person < 0 || person >= people.size()
                 || what < 0 || what > 1) {
             return Long.MIN_VALUE + 2;
         }
@@ -536,7 +534,7 @@ final class Plain {
                 }
                 parts = parts.multiply(BigInteger.valueOf(rains ? c : 16 - c));
             }
-            if (parts.signum() > 0 && endOf(people().get(person), wet) == 1) {
+            if (parts.signum() > 0 && endOf(people.get(person), wet) == 1) {
                 above = above.add(parts);
             }
         }
@@ -551,12 +549,12 @@ final class Plain {
         }
         BigInteger state = BigInteger.valueOf(seed);
         int many = 0;
-        for (Person it : people()) {
+        for (Person it : people) {
             int[] lots = {it.left, it.right};
-            for (int foot = 0; foot < 2 && !lasts().isEmpty(); foot++) {
+            for (int foot = 0; foot < 2 && !lasts.isEmpty(); foot++) {
                 state = state.multiply(BigInteger.valueOf(1103515245)).add(BigInteger.valueOf(12345))
                         .mod(BigInteger.TWO.pow(32));
-                lots[foot] = state.shiftRight(16).intValueExact() % lasts().size();
+                lots[foot] = state.shiftRight(16).intValueExact() % lasts.size();
             }
             many += endOf(it.in(lots[0], lots[1]), rains) == what + 1 ? 1 : 0;
         }
@@ -665,7 +663,7 @@ final class Plain {
     }
 
     int write(int person, int s) {
-        if (person < 0 || person >= people().size() || s < 0 || s > 3) {
+        if (person < 0 || person >= people.size() || s < 0 || s > 3) {
             return BAD;
         }
         if (sheets[s] == null) {
@@ -682,7 +680,7 @@ final class Plain {
         if (what < 0 || what > 8) {
             return BAD;
         }
-        return new int[] {cells().length(), lasts().size(), people().size(), texts[0].length(),
+        return new int[] {cells.length(), lasts.size(), people.size(), texts[0].length(),
             texts[1].length(), texts[2].length(), rains.size(), sights.size(), finding}[what];
     }
 }
