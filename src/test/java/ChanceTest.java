@@ -5,6 +5,7 @@ public final class ChanceTest {
 
     public static void main(String[] args) {
         storms();
+        stormsFollowChanges();
         wrongStorms();
         shelves();
         CHECK.finish();
@@ -39,6 +40,23 @@ public final class ChanceTest {
         DeadLasts u = Check.made("rrrrrr;.....c", "pe", "06000n");
         storm("five dry STEPS on end", u, 1, 9, 759375, 1048576);
         storm("three dry STEPS on end", u, 1, 2, 3375, 4096);
+    }
+
+    private static void stormsFollowChanges() {
+        DeadLasts x = Check.made("r.c", "pe", "01000w");
+        storm("as typed", x, 5, 0, 11, 16);
+        x.undo(0);
+        storm("the church is gone", x, 5, 0, 0, 1);
+        x.type(0, 'c');
+        storm("the church is back", x, 5, 0, 11, 16);
+        x.undo(1);
+        x.type(1, 'w');
+        storm("another way", x, 5, 0, 0, 1);
+        x.undo(2);
+        x.type(2, 'e');
+        storm("another own way", x, 5, 0, 5, 16);
+        storm("another chance", x, 7, 0, 7, 16);
+        storm("more steps", x, 7, 1, 7, 16);
     }
 
     private static void wrongStorms() {
