@@ -184,15 +184,12 @@ public final class DeadLasts {
         if (sheet.isLost()) {
             return refusal(NULL);
         }
-        rains.size = 0;
         outdate();
-        for (int i = 0; i < sheet.size; i++) {
-            int step = sheet.items[i];
-            if (!isWithin(step, STEPS) || !rains.add(step)) {
-                break;
-            }
+        int taken = 0;
+        while (taken < sheet.size && isWithin(sheet.items[taken], STEPS) && rains.add(sheet.items[taken])) {
+            taken++;
         }
-        return rains.size;
+        return taken;
     }
 
     // ---- steps

@@ -192,13 +192,13 @@ final class Plain {
         if (sheets[s] == null) {
             return find(1);
         }
-        rains.clear();
+        int before = rains.size();
         for (int i = 0; i < Array.getLength(sheets[s]); i++) {
             if (rain(Array.getInt(sheets[s], i)) < 0) {
                 break;
             }
         }
-        return rains.size();
+        return rains.size() - before;
     }
 
     // ---- steps

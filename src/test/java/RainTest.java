@@ -6,7 +6,9 @@ public final class RainTest {
         raining();
         twoInOneAreOne();
         reading();
-        readingInPlaceOfWhatWas();
+        readingBehindWhatWas();
+        readingTheSameTwice();
+        readingBehindAsManyAsThereMayBe();
         CHECK.finish();
     }
 
@@ -55,22 +57,51 @@ public final class RainTest {
         CHECK.due("count(6)", x.count(6), 3);
         CHECK.due("it rained in STEPS 0 and 1", x.at(2, 0, 0), 1);
         sheetOf(x, 1, 2, 5, -1, 6);
-        CHECK.due("up to one below 0", x.read(1), 1);
+        CHECK.due("up to one below 0: how many have come so", x.read(1), 1);
+        CHECK.due("count(6) behind the second read", x.count(6), 4);
         sheetOf(x, 2, 1, 1, 1, 1, 1, 1, 1, 1, 1, 1, 1);
-        CHECK.due("8 at most", x.read(2), 8);
+        CHECK.due("8 at most, with those that were", x.read(2), 4);
+        CHECK.due("count(6) of eight", x.count(6), 8);
         CHECK.due("then one more is FULL", x.rain(1), DeadLasts.FULL);
+        CHECK.due("and none may come from a SHEET", x.read(2), 0);
         x.sheet(3, 2, 0);
         CHECK.due("a sheet without items", x.read(3), 0);
+        CHECK.due("count(6) still", x.count(6), 8);
     }
 
-    private static void readingInPlaceOfWhatWas() {
-        DeadLasts x = Check.made(".....", "pe", "00000w", 0, 1, 2);
-        sheetOf(x, 0, 2, 4);
+    private static void readingBehindWhatWas() {
+        DeadLasts x = Check.made(".....", "pe", "00000w", 0, 1);
+        CHECK.due("it rained in STEPS 0 and 1", x.at(2, 0, 0), 1);
+        sheetOf(x, 0, 2, 2, 30);
         CHECK.due("read", x.read(0), 1);
-        CHECK.due("the rain that was is no more", x.at(2, 0, 0), 3);
-        CHECK.due("count(6)", x.count(6), 1);
-        CHECK.due("the new one is", x.at(4, 0, 0), 3);
+        CHECK.due("the rain that was is, and the new one", x.at(2, 0, 0), 0);
+        CHECK.due("count(6)", x.count(6), 3);
         CHECK.due("a refusal changes nothing", x.read(1), -11);
-        CHECK.due("count(6) behind it", x.count(6), 1);
+        CHECK.due("count(6) behind it", x.count(6), 3);
+        CHECK.due("the one that was read is undone first", x.back(), 2);
+        CHECK.due("dry in STEP 2 again", x.at(2, 0, 0), 1);
+    }
+
+    private static void readingTheSameTwice() {
+        DeadLasts x = new DeadLasts();
+        x.sheet(2, 0, 1);
+        CHECK.due("read", x.read(2), 1);
+        CHECK.due("read again", x.read(2), 1);
+        CHECK.due("never() of two RAINS", x.never(), 3);
+    }
+
+    private static void readingBehindAsManyAsThereMayBe() {
+        DeadLasts x = new DeadLasts();
+        sheetOf(x, 0, 2, 29, 0, 30);
+        for (int before = 0; before <= 8; before++) {
+            while (x.back() >= 0) {
+                continue;
+            }
+            for (int i = 0; i < before; i++) {
+                x.rain(7);
+            }
+            CHECK.due("read behind " + before, x.read(0), Math.min(2, 8 - before));
+            CHECK.due("count(6) behind " + before, x.count(6), Math.min(8, before + 2));
+        }
     }
 }
