@@ -13,6 +13,7 @@ public final class ChanceEdgesTest {
         inPlaceOfRain();
         lowestTerms();
         behindTheLastStep();
+        ofEachPerson();
         lots();
         noLots();
         seeds();
@@ -64,6 +65,10 @@ public final class ChanceEdgesTest {
                         below.divide(common).longValueExact());
             }
         }
+        // the left one east in STEPS 0, 2, .., 8, so that STEP 9 no longer matters
+        DeadLasts nine = Check.made("rrrrrr;.....c", "ps;pe", "06100n");
+        storm("nine dry STEPS", nine, 1, 8, 38443359375L, 68719476736L);
+        storm("nine dry STEPS of ten", nine, 1, 9, 38443359375L, 68719476736L);
         storm("the most there is below", tenDrySteps(), 1, 9, 576650390625L, 1099511627776L);
         storm("never wet", tenDrySteps(), 0, 9, 1, 1);
         storm("always wet", tenDrySteps(), 16, 9, 0, 1);
@@ -123,6 +128,21 @@ public final class ChanceEdgesTest {
         storm("three cells, by chance", Check.made("...c", "pe", "00005n"), 8, 7, 1, 2);
     }
 
+    private static void ofEachPerson() {
+        CHECK.says("the chance that a PERSON has COME");
+        DeadLasts x = Check.made("r.c", "pe;pw", "01000w;01110e;00000e;02000e");
+        long[][] want = {{11, 16}, {5, 16}, {0, 1}, {1, 1}};
+        for (int round = 0; round < 2; round++) {
+            for (int p = 0; p < 4; p++) {
+                CHECK.due("storm(5, 0, " + p + ", 0)", x.storm(5, 0, p, 0), want[p][0]);
+                CHECK.due("storm(5, 0, " + p + ", 1)", x.storm(5, 0, p, 1), want[p][1]);
+            }
+        }
+        CHECK.due("another c", x.storm(7, 0, 3, 0), 1);
+        CHECK.due("of another one", x.storm(7, 0, 0, 0), 9);
+        CHECK.due("a third c", x.storm(9, 0, 0, 0), 7);
+    }
+
     /** What shelves must answer, by other arithmetic. */
     private static int[] ends(String town, String lasts, int many, String head, String tail, int people, int seed) {
         int[] ends = new int[2];
@@ -176,7 +196,7 @@ public final class ChanceEdgesTest {
         int[] seeds = {0, 1, -1, Integer.MIN_VALUE};
         int[][] upper = {{0, 54236}, {16838, 38526}, {48697, 4409}, {32768, 21468}};
         for (int i = 0; i < seeds.length; i++) {
-            for (int many = 2; many <= 8; many++) {
+            for (int many = 1; many <= 8; many++) {
                 for (int last = 0; last < many; last++) {
                     lot(seeds[i], upper[i], last, many);
                 }

@@ -75,7 +75,47 @@ public final class DigestTest {
         due("a full town", x);
         x.get(0, 0, 0);
         due("a finding is not in it", x);
+        due("one RAIN that had better not be", Check.made("r..", "pe", "01000w", 9, 0));
+        due("two of them", Check.made("r..", "pe", "02000w", 4, 5, 14, 15));
+        String[] peoples = {Check.times(8, "14000n"), Check.times(3, "14000n"), Check.times(5, "08120w")};
+        for (String people : peoples) {
+            for (String lasts : new String[] {"pn;pe;ps;pw", "pne;tw;ds", "pes;pnw;pe;pw;ds"}) {
+                due("shelves", Check.made("..c..r;......;c....r;......;r.r.c.", lasts, people, 2));
+            }
+        }
+        byHand();
         CHECK.finish();
+    }
+
+    private static void told(String name, DeadLasts x, int... values) {
+        DigestTest d = new DigestTest();
+        for (int value : values) {
+            d.add(value);
+        }
+        CHECK.due(name, x.digest(), d.h);
+    }
+
+    /** Objects of which all that goes into it is told here, in its order. */
+    private static void byHand() {
+        CHECK.says("h is 17; h becomes 31 h and each of: count() 0 to 7; of texts fault()");
+        told("a new object", new DeadLasts(), 0, 0, 0, 0, 0, 0, 0, 0, -1, -1, -1,
+                0, 0, -1, -1, -1, -1, 0, 0, -1, 0, 0, 0);
+        told("faults alone", Check.made(".x", "pn;", "0"), 0, 0, 0, 2, 3, 1, 0, 0, 1, 3, 1,
+                0, 0, -1, -1, -1, -1, 0, 0, -1, 0, 0, 0);
+        told("one who comes", Check.made(".c", "pe", "00000n"), 2, 1, 1, 2, 2, 6, 0, 0, -1, -1, -1,
+                0, 2,
+                0, 1, 1, -1, -1, -1, 1,
+                0, 0, 0, 0, 0, 1, 1, 0, 0, 1, 1, 0, -1, 1, 1, 0, -1, 1, 1, 0, -1,
+                0, -1, 0, 0, 0, 0, 255, 255, 0, 1, 1,
+                1, 0, -1, -1, -1, 0, 1, 0, -1, 0, 1, 0);
+        DeadLasts x = Check.made("r..", "pe", "01000w", 9, 0);
+        x.seen(0, 0, 2);
+        told("one who is drowned", x, 3, 1, 1, 3, 2, 6, 2, 1, -1, -1, -1,
+                3, 0, 0,
+                0, 1, 1, -1, -1, -1, 0,
+                1, 0, 0, 0, 3, 0, 2, 0, -1, 0, 2, 0, -1, 0, 2, 0, -1, 0, 2, 0, -1,
+                -1, 0, -1, -1, -1, -1, 0, 0, 0, 0, 1,
+                0, 1, -1, -1, -1, 0, 0, 1, 1, 2, 0, 1);
     }
 
     private static void due(String name, DeadLasts x) {

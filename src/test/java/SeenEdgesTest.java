@@ -15,6 +15,7 @@ public final class SeenEdgesTest {
         woreInPlaceOfItsOwn();
         firstAndLastSteps();
         askedSteps();
+        askedOfRightLasts();
         askedOfLikeOnes();
         toldNumbers();
         CHECK.finish();
@@ -106,6 +107,13 @@ public final class SeenEdgesTest {
             CHECK.due("one beyond " + many + ": ask(0)", x.ask(0), 0);
             Check.typed(x, 2, ";00000n");
             CHECK.due("then it comes: never()", x.never(), 1);
+            x.undo(2);
+            x.wipe(2);
+            Check.typed(x, 2, Check.times(many, "00000n"));
+            x.forget();
+            x.seen(0, many, 0);
+            CHECK.due("one beyond " + many + " alone: never()", x.never(), 0);
+            CHECK.due("one beyond " + many + " alone: wore(0, 0)", x.wore(0, 0), 0);
         }
     }
 
@@ -209,13 +217,11 @@ public final class SeenEdgesTest {
                 CHECK.due("on " + cell + " behind " + steps[i], x.never(), cell == cells[i] ? 1 : 0);
             }
         }
-        // one step on the way alone is known: the right last is told by STEP 1 and not by STEP 0
         x.forget();
         x.seen(29, 0, 1);
         CHECK.due("on 1 behind STEP 29", x.wore(0, 0), 0);
-        DeadLasts y = Check.made(".....", "pe", "00004n", 23);
-        y.wipe(0);
-        Check.typed(y, 0, "......");
+        // by its last in STEPS 5, 10, 15, 20 and 29
+        DeadLasts y = Check.made("......", "pe", "00004n", 23);
         y.seen(28, 0, 4);
         y.seen(29, 0, 5);
         CHECK.due("behind STEPS 28 and 29: the left", y.wore(0, 0), 1);
@@ -223,7 +229,8 @@ public final class SeenEdgesTest {
     }
 
     private static void askedSteps() {
-        CHECK.says("the STEP behind which the greatest number of RIGHT lasts that it may have WORE by which it is on the like CELL is least");
+        CHECK.says("the STEP behind which the greatest number of RIGHT lasts that it may have WORE by which it is"
+                + " on the like CELL is least");
         // behind STEP 0 all eight on 1; behind STEP 1 one each on 2, 4, 0, five on 1, and never fewer
         DeadLasts x = Check.made("...;#.#;...", "pn;pe;ps;pw", "04070n");
         CHECK.due("lasts that there are not go the own way", x.ask(0), 1);
@@ -240,6 +247,23 @@ public final class SeenEdgesTest {
         z.seen(1, 0, 1);
         CHECK.due("one is left", z.wore(0, 1), 1);
         CHECK.due("then any STEP will do", z.ask(0), 0);
+    }
+
+    private static void askedOfRightLasts() {
+        CHECK.says("the greatest number of RIGHT lasts");
+        // behind STEP 1 three, two, two, one; behind STEP 3 two at most; and never fewer, for some are alike
+        DeadLasts x = Check.made(Check.times(6, "......"), "pnn;pnn;pne;pee;pee;pss;pss;pww", "21770n");
+        CHECK.due("behind STEP 3", x.ask(0), 3);
+        CHECK.due("wore(0, 0)", x.wore(0, 0), 255);
+        CHECK.due("by LEFT ones they part in STEP 0", x.ask(0), 3);
+        DeadLasts y = Check.made(Check.times(6, "......"), "pne;pne;pnn;pee;pee;pss;pss;pww", "21770n");
+        CHECK.due("by others", y.ask(0), 3);
+        y.seen(1, 0, 14);
+        CHECK.due("three are left", y.wore(0, 1), 7);
+        CHECK.due("two of them part from one", y.ask(0), 3);
+        y.seen(3, 0, 14);
+        CHECK.due("two are left", y.wore(0, 1), 3);
+        CHECK.due("they never part", y.ask(0), 0);
     }
 
     private static void askedOfLikeOnes() {

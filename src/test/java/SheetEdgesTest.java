@@ -374,7 +374,8 @@ public final class SheetEdgesTest {
     }
 
     private static void counts() {
-        CHECK.says("0 CELLS, 1 LASTS, 2 PEOPLE, 3 to 5 bytes of texts, 6 RAINS, 7 SEEN, 8 the number of the latest FINDING (0 before any). BAD.");
+        CHECK.says("0 CELLS, 1 LASTS, 2 PEOPLE, 3 to 5 bytes of texts, 6 RAINS, 7 SEEN,"
+                + " 8 the number of the latest FINDING (0 before any). BAD.");
         CHECK.range("count", new DeadLasts()::count, 0, 8);
         DeadLasts full = Check.made(Check.times(6, "......"), Check.times(8, "pnesw"), Check.times(8, "00000n"),
                 0, 0, 0, 0, 0, 0, 0, 0);
