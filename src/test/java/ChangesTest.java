@@ -33,6 +33,8 @@ public final class ChangesTest {
     private static void look(String object, String change, String question) {
         DeadLasts asked = OBJECTS.get(object).get();
         QUESTIONS.values().forEach(each -> each.applyAsLong(asked));
+        // once more at the end, lest another question has put it out of mind
+        QUESTIONS.get(question).applyAsLong(asked);
         CHANGES.get(change).accept(asked);
         DeadLasts unasked = OBJECTS.get(object).get();
         CHANGES.get(change).accept(unasked);

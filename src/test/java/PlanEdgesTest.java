@@ -1,3 +1,5 @@
+import java.util.Arrays;
+
 /** The edges of plans, sentence by sentence: Terms 3 and promises 18 to 21. */
 public final class PlanEdgesTest {
     private static final Check CHECK = new Check();
@@ -13,6 +15,7 @@ public final class PlanEdgesTest {
         notDrowned();
         matches();
         matchesOfMany();
+        matchesByTheLongestRow();
         dryCounts();
         dryRows();
         dryOfTwoInOne();
@@ -139,6 +142,30 @@ public final class PlanEdgesTest {
         CHECK.due("no room", Check.made("c....", "pw;tw", "01000n;04000n;04000n").match(), 2);
         DeadLasts x = Check.made("#c#;c.c;#c#", "pn;pe;ps", "04000n;04000n;04000n;04000n");
         CHECK.due("four for three", x.match(), 3);
+    }
+
+    /**
+     * People 0 to 6 come in the last of their number and in the next one alone, the eighth in last 0
+     * alone: for it all the others have to go over to their second one.
+     */
+    private static void matchesByTheLongestRow() {
+        CHECK.says("how many PEOPLE at most might COME");
+        String town = "..#...;..#...;c...c.;.#....;......;......";
+        String lasts = "pne;pnw;psnn;psnse;pw;pwes;pese;pes";
+        String people = "15001s;20001w;00001n;33001n;03001s;01000n;21001n;14001s";
+        for (int last = 0; last < 8; last++) {
+            DeadLasts x = Check.made(town, lasts, people.replaceAll("00(.[nesw])", "" + last + last + "$1"));
+            for (int p = 0; p < 8; p++) {
+                boolean comes = p == 7 ? last == 0 : last == p || last == p + 1;
+                CHECK.due("COMES, " + p + " in " + last, x.who(0) >> p & 1, comes ? 1 : 0);
+            }
+        }
+        for (int many = 1; many <= 8; many++) {
+            String first = people.substring(0, 7 * many - 1);
+            CHECK.due("the first " + many, Check.made(town, lasts, first).match(), many);
+            String some = String.join(";", Arrays.copyOf(lasts.split(";"), many));
+            CHECK.due("all, in the first " + many, Check.made(town, some, people).match(), many);
+        }
     }
 
     private static void dry(String name, DeadLasts x, int many, int first, int second) {

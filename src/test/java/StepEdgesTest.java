@@ -22,6 +22,7 @@ public final class StepEdgesTest {
         edges();
         walls();
         comingAndDrowning();
+        byWhichLast();
         aheadOfStepZero();
         lost();
         theLastStep();
@@ -232,6 +233,18 @@ public final class StepEdgesTest {
             CHECK.due("the STEP", x.ends(0, state - 1), 1);
             CHECK.due("not the other one", x.ends(0, 2 - state), NONE);
             CHECK.due("the last is worn twice", x.worn(0), 2);
+        }
+    }
+
+    private static void byWhichLast() {
+        CHECK.says("by which last it went in that STEP (NONE: its OWN way, or it did not go)");
+        DeadLasts x = Check.made("....c", "pe;pe", "00010e;00771e;04000e;05000e", 1);
+        int[] went = {0, NONE, 0, 1, NONE};
+        for (int step = 0; step < went.length; step++) {
+            CHECK.due("the left, rain, the left, the right, it has come: " + step, x.at(step, 0, 3), went[step]);
+            CHECK.due("no such last: " + step, x.at(step, 1, 3), NONE);
+            CHECK.due("it had come ahead of STEP 0: " + step, x.at(step, 2, 3), NONE);
+            CHECK.due("it is LOST: " + step, x.at(step, 3, 3), NONE);
         }
     }
 
