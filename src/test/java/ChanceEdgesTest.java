@@ -161,7 +161,8 @@ public final class ChanceEdgesTest {
     }
 
     private static void lots() {
-        CHECK.says("its upper 16 bits as a number from 0 on, modulo m");
+        CHECK.says("LOTS of m: SEED becomes 1103515245 SEED and 12345, as ints that wrap; its upper 16 bits as a number"
+                + " from 0 on, modulo m.");
         String ways = "pn;pe;pw;ps;pnn;pee;pww;pss";
         String town = "..r..;.....;c...c;.....;..r..";
         for (int seed : new int[] {0, 1, 7, -1, 2, 65535, 65536, Integer.MAX_VALUE, Integer.MIN_VALUE, 20261118}) {

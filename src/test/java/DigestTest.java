@@ -97,7 +97,11 @@ public final class DigestTest {
 
     /** Objects of which all that goes into it is told here, in its order. */
     private static void byHand() {
-        CHECK.says("h is 17; h becomes 31 h and each of: count() 0 to 7; of texts fault()");
+        CHECK.says("h is 17; h becomes 31 h and each of: count() 0 to 7; of texts fault(); of CELLS cell(); of LASTS"
+                + " last() 0 to 5, worn(); of PEOPLE person() 0 to 4, of STEPS 0, 5, 12, 29 at(the STEP, it, 0 to 3),"
+                + " then ends() 0, 1, pair() 0 to 2, soles(), wore() 0, 1, ask(), storm(5, 5, it), above, below;"
+                + " who() 0, 1, met() 0 to 2, rifest(), match(), dry(NONE), dry(0), never(), shelves(7, 0 and 1);"
+                + " as longs that wrap.");
         told("a new object", new DeadLasts(), 0, 0, 0, 0, 0, 0, 0, 0, -1, -1, -1,
                 0, 0, -1, -1, -1, -1, 0, 0, -1, 0, 0, 0);
         told("faults alone", Check.made(".x", "pn;", "0"), 0, 0, 0, 2, 3, 1, 0, 0, 1, 3, 1,
